@@ -93,7 +93,7 @@ public final class UnderTheRope {
         if (!isRule(rule) || (i != -1 && !isBoat(i))) {
             return BAD;
         }
-        int all = allStand(rule, plan);
+        int all = passage.run(plan, rule, LAST_MINUTE);
         return i == -1 ? all : passage.made[i];
     }
 
@@ -173,11 +173,12 @@ public final class UnderTheRope {
             return BAD;
         }
         int bestRule = leastRule();
-        return what == 0 ? bestRule : allStand(bestRule, plan);
+        return what == 0 ? bestRule : passage.run(plan, bestRule, LAST_MINUTE);
     }
 
     public int custom() {
-        return allStand(CUSTOM, plan) - allStand(leastRule(), plan);
+        int least = passage.run(plan, leastRule(), LAST_MINUTE);
+        return passage.run(plan, CUSTOM, LAST_MINUTE) - least;
     }
 
     public int send(int rule, int i, int what) {
@@ -189,7 +190,7 @@ public final class UnderTheRope {
         int least = Integer.MAX_VALUE;
         for (int d = 0; d <= MOST_LATER; d++) {
             trial.delays[i] = d;
-            int all = allStand(rule, trial);
+            int all = passage.run(trial, rule, LAST_MINUTE);
             if (all < least) {
                 least = all;
                 bestDelay = d;
@@ -202,7 +203,7 @@ public final class UnderTheRope {
         if (!isRule(rule) || !isWithin(what, 0, 1)) {
             return BAD;
         }
-        int least = allStand(rule, plan);
+        int least = passage.run(plan, rule, LAST_MINUTE);
         int bestPair = NONE;
         for (int i = 0; i < cut.boats; i++) {
             for (int j = i + 1; j < cut.boats; j++) {
@@ -309,7 +310,7 @@ public final class UnderTheRope {
             return BAD;
         }
         trial.draw(z);
-        int all = allStand(rule, trial);
+        int all = passage.run(trial, rule, LAST_MINUTE);
         return what == 0 ? all : passage.met;
     }
 
@@ -369,20 +370,11 @@ public final class UnderTheRope {
         return true;
     }
 
-    private int allStand(int rule, Plan how) {
-        passage.run(how, rule, LAST_MINUTE);
-        int all = 0;
-        for (int i = 0; i < cut.boats; i++) {
-            all += passage.made[i];
-        }
-        return all;
-    }
-
     private int leastRule() {
         int bestRule = CUSTOM;
         int least = Integer.MAX_VALUE;
         for (int rule = 0; rule < RULES; rule++) {
-            int all = allStand(rule, plan);
+            int all = passage.run(plan, rule, LAST_MINUTE);
             if (all < least) {
                 least = all;
                 bestRule = rule;
@@ -395,7 +387,7 @@ public final class UnderTheRope {
         trial.copy(plan);
         trial.loads[i] = plan.loads[j];
         trial.loads[j] = plan.loads[i];
-        return allStand(rule, trial);
+        return passage.run(trial, rule, LAST_MINUTE);
     }
 
     private int minutesToSink(int j) {
@@ -533,10 +525,6 @@ public final class UnderTheRope {
                 }
             }
             return false;
-        }
-
-        int endOf(int i) {
-            return way[i] == UP ? LAST_CELL : 0;
         }
     }
 
@@ -759,6 +747,7 @@ public final class UnderTheRope {
         final int[] made = new int[MOST_BOATS];
         final int[] yielded = new int[MOST_BOATS];
         final int[] started = new int[MOST_BOATS];
+        int allMade;
         int underWay;
         int met;
         final int[] minuteOf = new int[MOST_MEETINGS];
@@ -771,17 +760,20 @@ public final class UnderTheRope {
             this.rules = rules;
         }
 
-        void run(Plan plan, int rule, int lastMinute) {
+        /** How many minutes all together are made to stand. */
+        int run(Plan plan, int rule, int lastMinute) {
             begin(plan);
             for (int minute = 1; minute <= lastMinute && underWay > 0; minute++) {
                 goOn();
                 meetAll(plan, rule, minute);
                 arrive(minute);
             }
+            return allMade;
         }
 
         void begin(Plan plan) {
             met = 0;
+            allMade = 0;
             underWay = cut.boats;
             for (int i = 0; i < cut.boats; i++) {
                 at[i] = cut.cell[i];
@@ -853,6 +845,7 @@ public final class UnderTheRope {
             }
             standing[i] += minutes;
             made[i] += minutes;
+            allMade += minutes;
         }
 
         void noteMeeting(int minute, int pair, int yielder, int place) {
@@ -877,7 +870,7 @@ public final class UnderTheRope {
         }
 
         boolean isAtEnd(int i) {
-            return at[i] == cut.endOf(i);
+            return at[i] == (cut.way[i] == UP ? LAST_CELL : 0);
         }
     }
 

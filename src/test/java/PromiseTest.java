@@ -615,11 +615,19 @@ public final class PromiseTest {
     }
 
     private static void day() {
-        // z 0: DRAW is 1 for boat 0 (later 1, load 0), 6152 times 6152 modulo 65521 = 42087 for boat 1 (later 20, load 7).
+        // z 0: DRAW is 1 for boat 0 (later 1, load 0), 6152 times 6152 modulo 65521 = 41487 for boat 1 (later 9, load 8).
         UnderTheRope x = laid("b0,0,1,9,0;b10,1,1,9,0;y2;");
         due(29, "day(0, 0, 0)", x.day(0, 0, 0), 2);
         due(29, "day(0, 0, 1)", x.day(0, 0, 1), 1);
         due(29, "day(3, 9999, 1)", x.day(3, 9999, 1), 1);
+        // z 1: boat 0 is later by 18 with a load of 6, boat 1 by 5 with 5: they meet in minute 15, at 0.
+        due(29, "boat 0 yields", laid("b0,0,1,0,3;b10,1,1,0,0;").day(0, 1, 0), 10);
+        due(29, "boat 1 yields", laid("b0,0,1,0,0;b10,1,1,0,3;").day(0, 1, 0), 9);
+        due(29, "at 0", laid("b0,0,1,0,3;b10,1,1,0,0;n0,0;").day(0, 1, 0), 16);
+        due(29, "not at 1 or above", laid("b0,0,1,0,3;b10,1,1,0,0;n1,60;").day(0, 1, 0), 10);
+        // z 9999: boat 0 is later by 29 with a load of 1, boat 1 by 0 with 9.
+        due(29, "boat 0 yields on the last day", laid("b0,0,1,0,3;b10,1,1,0,0;").day(0, 9999, 0), 5);
+        due(29, "boat 1 yields on the last day", laid("b0,0,1,0,0;b10,1,1,0,3;").day(0, 9999, 0), 13);
         due(29, "nothing changes", x.boat(0, 3), 9);
         due(29, "nothing is later", x.boat(1, 5), 0);
         due(29, "nothing to undo", x.count(3), 0);
