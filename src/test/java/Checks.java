@@ -2,6 +2,7 @@
 final class Checks {
     static final int BAD = -1, NO = -2, FULL = -3, NONE = -4;
     static final int LEAST = Integer.MIN_VALUE, MOST = Integer.MAX_VALUE;
+    private static final int MOST_TOLD = 40;
     private static int wrong = 0;
     private static int checked = 0;
     private static String sentence = "";
@@ -15,18 +16,20 @@ final class Checks {
     }
 
     static void due(String call, int got, int want) {
-        checked++;
-        if (got != want) {
-            wrong++;
-            System.out.println(sentence + ": " + call + " answered " + got + ", due is " + want);
-        }
+        due(call, Integer.toString(got), Integer.toString(want));
     }
 
     static void due(String call, String got, String want) {
         checked++;
         if (!got.equals(want)) {
-            wrong++;
-            System.out.println(sentence + ": " + call + " answered\n  " + got + ", due is\n  " + want);
+            fail(call + " answered " + got + ", due is " + want);
+        }
+    }
+
+    static void fail(String what) {
+        wrong++;
+        if (wrong <= MOST_TOLD) {
+            System.out.println(sentence + ": " + what);
         }
     }
 
@@ -52,8 +55,7 @@ final class Checks {
     static UnderTheRope laid(String text) {
         UnderTheRope x = written(text);
         if (x.lay() < 1) {
-            wrong++;
-            System.out.println(sentence + ": not laid: " + text);
+            fail("not laid: " + text);
         }
         return x;
     }
