@@ -186,9 +186,10 @@ public final class UnderTheRope {
             return BAD;
         }
         trial.copy(plan);
+        trial.delays[i] = 0;
         int bestDelay = 0;
-        int least = Integer.MAX_VALUE;
-        for (int d = 0; d <= MOST_LATER; d++) {
+        int least = passage.run(trial, rule, LAST_MINUTE);
+        for (int d = 1; d <= MOST_LATER; d++) {
             trial.delays[i] = d;
             int all = passage.run(trial, rule, LAST_MINUTE);
             if (all < least) {
@@ -372,8 +373,8 @@ public final class UnderTheRope {
 
     private int leastRule() {
         int bestRule = CUSTOM;
-        int least = Integer.MAX_VALUE;
-        for (int rule = 0; rule < RULES; rule++) {
+        int least = passage.run(plan, CUSTOM, LAST_MINUTE);
+        for (int rule = CUSTOM + 1; rule < RULES; rule++) {
             int all = passage.run(plan, rule, LAST_MINUTE);
             if (all < least) {
                 least = all;

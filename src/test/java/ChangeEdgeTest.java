@@ -186,27 +186,39 @@ public final class ChangeEdgeTest {
         }
     }
 
+    private static int[] loadsAndLaters(UnderTheRope x) {
+        int[] all = new int[12];
+        for (int i = 0; i < 6; i++) {
+            all[i] = x.boat(i, 3);
+            all[6 + i] = x.boat(i, 5);
+        }
+        return all;
+    }
+
     private static void eightOfManyKinds() {
         says(15, "the last 8 can be, of loads and of being sent later together");
-        UnderTheRope x = Checks.laid(Checks.SIX);
-        x.load(0, 9);
-        x.later(1, 30);
-        for (int i = 2; i < 6; i++) {
-            x.load(i, 8);
-            x.later(i, 20 + i);
+        // Whose, and whether a load: no row of nine is alike when it is moved on by one or by two.
+        int[] whose = {0, 1, 2, 3, 4, 5, 0, 3, 1, 1, 5, 2, 2, 4, 0, 0, 5};
+        boolean[] ofLoad = {true, false, false, true, true, true, false, true, false, false, true, false, true, true, false, true, false};
+        for (int many = 1; many <= whose.length; many++) {
+            UnderTheRope x = Checks.laid(Checks.SIX);
+            int[][] before = new int[many][12];
+            int[] now = loadsAndLaters(x);
+            for (int k = 0; k < many; k++) {
+                before[k] = now.clone();
+                int i = whose[k];
+                int to = ofLoad[k] ? (now[i] + 3) % 10 : k + 1;
+                due("what it was", ofLoad[k] ? x.load(i, to) : x.later(i, to), now[ofLoad[k] ? i : 6 + i]);
+                now[ofLoad[k] ? i : 6 + i] = to;
+            }
+            int can = Math.min(many, 8);
+            for (int k = 1; k <= can; k++) {
+                due("undo " + k + " of " + many, x.undo(), can - k);
+                Checks.due("all boats behind undo " + k + " of " + many, java.util.Arrays.toString(loadsAndLaters(x)),
+                    java.util.Arrays.toString(before[many - k]));
+            }
+            due("undo a ninth of " + many, x.undo(), NO);
         }
-        due("eight", x.count(3), 8);
-        int[] loads = {0, 1, 9, 4};
-        for (int i = 5; i >= 2; i--) {
-            due("undo()", x.undo(), 2 * i - 3);
-            due("later of " + i, x.boat(i, 5), 0);
-            due("load of " + i + " still", x.boat(i, 3), 8);
-            due("undo()", x.undo(), 2 * i - 4);
-            due("load of " + i, x.boat(i, 3), loads[i - 2]);
-        }
-        due("undo()", x.undo(), NO);
-        due("the ninth stays", x.boat(1, 5), 30);
-        due("the tenth stays", x.boat(0, 3), 9);
     }
 
     private static void undoneAndChangedAgain() {

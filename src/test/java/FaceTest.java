@@ -113,6 +113,11 @@ public final class FaceTest {
             Matcher m = Pattern.compile(Character.isLetter(word.charAt(0)) ? "\\b" + word : word).matcher(code);
             check(!m.find(), "the source has " + word);
         }
+        // What the program takes of the library; a name that LANGUAGE.md lists may be added here.
+        Matcher library = Pattern.compile("\\b([A-Z][a-z]\\w*\\.\\w+)").matcher(code);
+        while (library.find()) {
+            check(List.of("Math.max", "Math.min", "System.arraycopy").contains(library.group(1)), "the source has " + library.group(1));
+        }
         check(code.chars().allMatch(c -> c == '\n' || c >= 32 && c < 127), "a sign beyond ASCII");
         // Rows are made in the constructors and used again: no call makes an object.
         for (String line : code.split("\n")) {
