@@ -15,6 +15,7 @@ import java.util.regex.Pattern;
 /** The class has the document's face and no other, and its source keeps to those rules of LANGUAGE.md that a search can see. */
 public final class FaceTest {
     private static final Path SOURCE = Path.of("src/main/java/UnderTheRope.java");
+    private static final Path DOCUMENT = Path.of("../shared/DOC.md");
     private static final String[] FACE = {
         "write 1", "wipe 0", "fault 0", "lay 0", "boat 2", "where 3", "there 2", "stands 2", "yields 2", "meetings 1",
         "meeting 3", "load 2", "later 2", "undo 0", "who 3", "best 1", "custom 0", "send 3", "swap 2", "fall 3",
@@ -23,6 +24,7 @@ public final class FaceTest {
 
     public static void main(String[] args) throws IOException {
         methods();
+        asTheDocumentTells(Files.readString(DOCUMENT));
         fields();
         constructors();
         nestedClasses();
@@ -64,6 +66,20 @@ public final class FaceTest {
         for (Method m : UnderTheRope.class.getDeclaredMethods()) {
             check(!Modifier.isPrivate(m.getModifiers()) || !names.contains(m.getName()), "bears the name of a public one: " + m);
         }
+    }
+
+    /** Each line of the document's face, with the names of the parameters, stands so in the source; FACE has as many. */
+    private static void asTheDocumentTells(String document) throws IOException {
+        String code = Files.readString(SOURCE).replaceAll("\\s+", " ");
+        Matcher told = Pattern.compile("(?m)^    (public int (\\w+)\\(([^)]*)\\));$").matcher(document);
+        TreeSet<String> found = new TreeSet<>();
+        while (told.find()) {
+            int parameters = told.group(3).isEmpty() ? 0 : told.group(3).split(",").length;
+            found.add(told.group(2) + " " + parameters);
+            check(code.contains(told.group(1) + " {"), "not in the source: " + told.group(1));
+        }
+        check(found.equals(new TreeSet<>(Arrays.asList(FACE))), "the document's methods are " + found);
+        check(code.contains("public static final int BAD = -1, NO = -2, FULL = -3, NONE = -4;"), "the constants are not as told");
     }
 
     private static void fields() {
